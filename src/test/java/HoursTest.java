@@ -200,6 +200,11 @@ final class HoursTest {
                 Check.same("lock(" + week + ")", plan.lock(week), 0);
             }
         }
+        for (int each = 0; each < 30; each++) {
+            int week = each;
+            Check.refused("a week stays locked", Plans.STATE, plan, () -> plan.lock(week));
+            Check.refused("a week takes no hours", Plans.UNSUPPORTED, plan, () -> plan.note(0, 0, week, 1));
+        }
     }
 
     private static void lockedWeekTakesNoHours() {

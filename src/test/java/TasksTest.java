@@ -10,6 +10,7 @@ final class TasksTest {
         addTaskUnderParents();
         block();
         blockRefuses();
+        blockFindsLongRings();
         blockLimit();
         blockInAnyState();
         begin();
@@ -132,6 +133,19 @@ final class TasksTest {
         Check.same("block(0, 3), by others already", plan.block(0, 3), 2);
         Check.same("block(4, 0)", plan.block(4, 0), 1);
         Check.refused("block(3, 4)", Plans.UNSUPPORTED, plan, () -> plan.block(3, 4));
+    }
+
+    private static void blockFindsLongRings() {
+        TicketForge up = Plans.open(16);
+        TicketForge down = Plans.open(16);
+        for (int task = 0; task < 15; task++) {
+            Check.same("up", up.block(task, task + 1), 1);
+            Check.same("down", down.block(task + 1, task), 1);
+        }
+        Check.refused("a ring of 16 tasks, up", Plans.UNSUPPORTED, up, () -> up.block(15, 0));
+        Check.refused("a ring of 16 tasks, down", Plans.UNSUPPORTED, down, () -> down.block(0, 15));
+        Check.same("a shorter way is no ring, up", up.block(0, 15), 2);
+        Check.same("a shorter way is no ring, down", down.block(15, 0), 2);
     }
 
     private static void blockLimit() {
