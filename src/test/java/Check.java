@@ -4,15 +4,25 @@ import java.util.Objects;
 final class Check {
     private static int checks = 0;
     private static int wrong = 0;
+    private static String test = "";
 
     private Check() {
+    }
+
+    /** What stands ahead of each fault that is printed from now on. */
+    static void within(String name) {
+        test = name;
+    }
+
+    static int checks() {
+        return checks;
     }
 
     static void same(String what, Object got, Object due) {
         checks++;
         if (!Objects.equals(got, due)) {
             wrong++;
-            System.out.println(what + " answered " + got + ", due is " + due);
+            System.out.println(test + what + " answered " + got + ", due is " + due);
         }
     }
 

@@ -46,4 +46,85 @@ final class Plans {
         plan.approve(entry);
         return entry;
     }
+
+    /** A plan with one task, without a budget, in this state. */
+    static TicketForge taskIn(char state) {
+        TicketForge plan = open(1);
+        bring(plan, 0, state);
+        return plan;
+    }
+
+    /** Brings an open task to this state. */
+    static void bring(TicketForge plan, int task, char state) {
+        if (state != 'o') {
+            plan.begin(task);
+        }
+        if (state == 'r' || state == 'd') {
+            plan.propose(task);
+        }
+        if (state == 'd') {
+            plan.merge(task);
+        }
+    }
+
+    /** A plan with one task and one entry, of 5 hours of person 0 in week 0, in this state. */
+    static TicketForge entryIn(char state) {
+        TicketForge plan = oneInWork();
+        plan.note(0, 0, 0, 5);
+        if (state == 'x') {
+            plan.lock(0);
+        } else if (state != 'n') {
+            plan.approve(0);
+        }
+        if (state == 'b' || state == 'c') {
+            end(plan, 0);
+            plan.invoice(0, 0);
+        }
+        if (state == 'c') {
+            plan.reopen(0);
+        }
+        return plan;
+    }
+
+    /** Tasks that are parents one of the next, open, without budgets. */
+    static TicketForge chain(int tasks) {
+        TicketForge plan = new TicketForge();
+        for (int i = 0; i < tasks; i++) {
+            plan.addTask(i - 1, 10, 0);
+        }
+        return plan;
+    }
+
+    /**
+     * As many tasks, blocks, entries and invoices as there may be. Tasks 0 to 7 are a chain, all done but task 0, which
+     * is reopened; the others are open, and 14 and 15 are blocked by ten each. Two entries a week, those of the weeks
+     * 0 to 19 billed by an invoice a week and some of them credited, those of 20 to 27 approved, the last ones noted.
+     */
+    static TicketForge full() {
+        TicketForge plan = new TicketForge();
+        for (int i = 0; i < 16; i++) {
+            plan.addTask(i < 8 ? i - 1 : -1, 100, i == 0 ? 400 : 0);
+        }
+        for (int i = 0; i < 10; i++) {
+            plan.block(i, 14);
+            plan.block(i, 15);
+        }
+        for (int i = 0; i < 8; i++) {
+            plan.begin(i);
+        }
+        for (int i = 0; i < 60; i++) {
+            int entry = plan.note(i % 8, i % 4, i / 2, 1 + i % 5);
+            if (i < 56) {
+                plan.approve(entry);
+            }
+        }
+        for (int i = 7; i >= 0; i--) {
+            end(plan, i);
+        }
+        for (int week = 0; week < 20; week++) {
+            plan.invoice(0, week);
+        }
+        plan.reopen(0);
+        return plan;
+    }
 }
