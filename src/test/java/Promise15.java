@@ -112,6 +112,17 @@ final class Promise15 {
         return plan;
     }
 
+    /** No run of calls leads here: see Inside. */
+    static void aNotedEntryOfALockedWeekIsRefused() {
+        Edge.refused("noted", Plans.UNSUPPORTED, Promise15::notedInALockedWeek, plan -> plan.approve(0));
+    }
+
+    private static TicketForge notedInALockedWeek() {
+        TicketForge plan = Plans.entryIn('n');
+        Inside.lockWithoutDroppingEntries(plan, 0);
+        return plan;
+    }
+
     static void theWeeksBesideALockedOneAreTaken() {
         TicketForge plan = Plans.oneInWork();
         plan.note(0, 0, 2, 4);

@@ -1,4 +1,4 @@
-/** Promise 25: invoice. Who asks for the cap and the discount alone finds more in Promise23 and Promise24. */
+/** Promise 25: invoice. The ends of the cap's and the discount's ranges are in Promise23 and Promise24. */
 final class Promise25 {
     private Promise25() {
     }
@@ -53,11 +53,6 @@ final class Promise25 {
             Check.same("invoice", plan.invoice(0, week), week);
         }
         return plan;
-    }
-
-    /** An open chain of two tasks. */
-    private static TicketForge openChain() {
-        return Plans.chain(2);
     }
 
     /** A chain of two that is done, with an approved entry for each. */
@@ -425,8 +420,8 @@ final class Promise25 {
     }
 
     static void noSuchTaskComesAheadOfTheWeek() {
-        Edge.refused("task and week", Plans.INDEX, Promise25::openChain, plan -> plan.invoice(2, 30));
-        Edge.refused("task and week", Plans.INDEX, Promise25::openChain, plan -> plan.invoice(-1, -1));
+        Edge.refused("task and week", Plans.INDEX, () -> Plans.chain(2), plan -> plan.invoice(2, 30));
+        Edge.refused("task and week", Plans.INDEX, () -> Plans.chain(2), plan -> plan.invoice(-1, -1));
     }
 
     static void noSuchTaskComesAheadOf20Invoices() {
@@ -434,16 +429,16 @@ final class Promise25 {
     }
 
     static void noSuchWeekComesAheadOfTheParent() {
-        Edge.refused("week and parent", Plans.ARGUMENT, Promise25::openChain, plan -> plan.invoice(1, 30));
+        Edge.refused("week and parent", Plans.ARGUMENT, () -> Plans.chain(2), plan -> plan.invoice(1, 30));
     }
 
     static void noSuchWeekComesAheadOfNoEntryAnd20Invoices() {
-        Edge.refused("week and entries", Plans.ARGUMENT, Promise25::openChain, plan -> plan.invoice(0, -1));
+        Edge.refused("week and entries", Plans.ARGUMENT, () -> Plans.chain(2), plan -> plan.invoice(0, -1));
         Edge.refused("week and invoices", Plans.ARGUMENT, Promise25::twenty, plan -> plan.invoice(0, 30));
     }
 
     static void theParentComesAheadOfNoEntryAnd20Invoices() {
-        Edge.refused("parent and entries", Plans.UNSUPPORTED, Promise25::openChain, plan -> plan.invoice(1, 0));
+        Edge.refused("parent and entries", Plans.UNSUPPORTED, () -> Plans.chain(2), plan -> plan.invoice(1, 0));
         Edge.refused("parent and invoices", Plans.UNSUPPORTED, Plans::full, plan -> plan.invoice(1, 29));
     }
 }

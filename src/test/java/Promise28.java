@@ -30,6 +30,30 @@ final class Promise28 {
         Check.same("totalByRules(0)", plan.totalByRules(0), 250);
     }
 
+    static void otherInvoicesAreNotInTheSumOfTheDiscount() {
+        TicketForge plan = Plans.oneInWork();
+        Plans.work(plan, 0, 0, 0, 5);
+        Plans.work(plan, 0, 0, 1, 5);
+        Plans.end(plan, 0);
+        plan.setDiscount(251, 10);
+        plan.invoice(0, 0);
+        plan.invoice(0, 1);
+        Check.same("totalByRules(0)", plan.totalByRules(0), 250);
+        Check.same("totalByRules(1)", plan.totalByRules(1), 250);
+    }
+
+    static void entriesThatAreNotBilledAreNotInTheSumOfTheDiscount() {
+        TicketForge plan = Plans.oneInWork();
+        Plans.work(plan, 0, 0, 0, 40);
+        Plans.work(plan, 0, 0, 0, 1);
+        Plans.work(plan, 0, 0, 1, 1);
+        plan.note(0, 0, 0, 1);
+        Plans.end(plan, 0);
+        plan.setDiscount(2001, 10);
+        plan.invoice(0, 0);
+        Check.same("totalByRules(0)", plan.totalByRules(0), 2000);
+    }
+
     static void creditedEntriesCount() {
         Check.same("totalByRules(0)", Plans.entryIn('c').totalByRules(0), 250);
     }

@@ -41,6 +41,14 @@ final class Promise36 {
         Check.same("meanPrice()", Plans.entryIn('b').meanPrice(), 50.0);
     }
 
+    static void oneBilledHourIsEnough() {
+        TicketForge plan = Plans.oneInWork();
+        Plans.work(plan, 0, 0, 0, 1);
+        Plans.end(plan, 0);
+        plan.invoice(0, 0);
+        Check.same("meanPrice()", plan.meanPrice(), 50.0);
+    }
+
     static void aPriceOf0Is0() {
         TicketForge plan = Plans.entryIn('a');
         plan.setRate(0, 0);

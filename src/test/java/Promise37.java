@@ -1,10 +1,14 @@
-/** Promise 37: isSettled. No run of calls makes it false; a plan that forgot what its sentences name would say so. */
+/** Promise 37: isSettled. No run of calls makes it false; what would is set inside of the plan: see Inside. */
 final class Promise37 {
     private Promise37() {
     }
 
     private static void settled(String what, TicketForge plan) {
         Check.same("isSettled() of " + what, plan.isSettled(), true);
+    }
+
+    private static void notSettled(String what, TicketForge plan) {
+        Check.same("isSettled() of " + what, plan.isSettled(), false);
     }
 
     /** 60 hours of a person in a week, billed at a cap of 60. */
@@ -17,6 +21,63 @@ final class Promise37 {
         plan.invoice(0, 0);
         Check.same("items(0)", plan.items(0), 2);
         return plan;
+    }
+
+    static void anotherTotalThanByTheRulesIsNotSettled() {
+        int[] invoices = {0, 7, 19};
+        for (int invoice : invoices) {
+            TicketForge more = Plans.full();
+            Inside.addToTotal(more, invoice, 1);
+            notSettled("1 more for invoice " + invoice, more);
+            TicketForge less = Plans.full();
+            Inside.addToTotal(less, invoice, -1);
+            notSettled("1 less for invoice " + invoice, less);
+        }
+    }
+
+    static void anotherCreditThanOfTheEntriesIsNotSettled() {
+        int[] invoices = {0, 7, 19};
+        for (int invoice : invoices) {
+            TicketForge more = Plans.full();
+            Inside.addToCredited(more, invoice, 1);
+            notSettled("1 more credited for invoice " + invoice, more);
+            TicketForge less = Plans.full();
+            Inside.addToCredited(less, invoice, -1);
+            notSettled("1 less credited for invoice " + invoice, less);
+        }
+    }
+
+    static void moreHoursThanTheGreatestCapAreNotSettled() {
+        char[] states = {'b', 'c'};
+        for (char state : states) {
+            TicketForge plan = Plans.entryIn(state);
+            Inside.setGreatestCap(plan, 5);
+            settled("5 hours of 5, in " + state, plan);
+            Inside.setGreatestCap(plan, 4);
+            notSettled("5 hours of 4, in " + state, plan);
+        }
+        TicketForge sum = sixtyHours();
+        Inside.setGreatestCap(sum, 59);
+        notSettled("40 and 20 hours of 59", sum);
+    }
+
+    static void onlyHoursThatAreBilledOrCreditedCount() {
+        char[] states = {'n', 'a', 'x'};
+        for (char state : states) {
+            TicketForge plan = Plans.entryIn(state);
+            Inside.setGreatestCap(plan, 0);
+            settled("5 hours of 0, in " + state, plan);
+        }
+    }
+
+    static void otherInvoicesAreNotInTheSumOfTheDiscount() {
+        TicketForge plan = Plans.entryIn('a');
+        Plans.work(plan, 0, 0, 1, 5);
+        Plans.end(plan, 0);
+        plan.setDiscount(251, 10);
+        plan.invoice(0, 0);
+        plan.invoice(0, 1);
+        settled("two invoices without the discount", plan);
     }
 
     static void aNewPlanIsSettled() {
